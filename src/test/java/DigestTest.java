@@ -4,6 +4,7 @@ public final class DigestTest {
         ofNewObject();
         ofManyStates();
         ofEachShare();
+        ofSmallShares();
         ofSnapshotAndBuffer();
         Check.end();
     }
@@ -86,13 +87,25 @@ public final class DigestTest {
             }
             for (int minute = 0; minute < 6; minute++) {
                 x.pass(9);
-                SewingPiles y = x;
-                Check.due("27: shares of " + shirts, dueDigest(y, "", false), y.digest());
-                Check.due("27: the same again", y.digest(), y.digest());
+                Check.due("27: shares of " + shirts, dueDigest(x, "", false), x.digest());
+                Check.due("27: the same again", x.digest(), x.digest());
                 if (x.count(4) == 0) {
                     break;
                 }
             }
+        }
+    }
+
+    /** One shirt of n was taken from another one: shares of 1/2 down to 1/40. */
+    private static void ofSmallShares() {
+        SewingPiles x = new SewingPiles();
+        Check.layAll(x, 0, 1, 1);
+        x.pass(2);
+        for (int taken = 2; taken <= 40; taken++) {
+            Check.dueShare("25: one of " + taken, 1.0 / taken, x.takenShare());
+            Check.due("27: one of " + taken, dueDigest(x, "", false), x.digest());
+            x.lay(0, 1);
+            x.pass(2);
         }
     }
 

@@ -122,6 +122,9 @@ public final class ForecastTest {
         for (int what = 0; what < 4; what++) {
             Check.due("24: from now on, " + what, next[what], x.ifPassed(5, what));
         }
+        x.pass(4);
+        Check.due("24: one miss in the next minute", 1, x.ifPassed(1, 2));
+        Check.due("24: not counting those before", 5, x.count(7));
         Check.dueThrow("24: ifPassed(0, 0)", Check.ARGUMENT, x, () -> x.ifPassed(0, 0));
         Check.dueThrow("24: ifPassed(201, 0)", Check.ARGUMENT, x, () -> x.ifPassed(201, 0));
         Check.dueThrow("24: ifPassed(1, -1)", Check.ARGUMENT, x, () -> x.ifPassed(1, -1));

@@ -5,6 +5,7 @@ public final class StatesTest {
         goBack();
         undo();
         undoRestoresAll();
+        whatComesBehindUndoIsNew();
         undoLeavesBufferAndSnapshot();
         atMostSix();
         throwingSavesNothing();
@@ -83,6 +84,24 @@ public final class StatesTest {
         x.speed(1, 9);
         x.undo();
         Check.due("14: the speed", 1, x.seamstress(1, 0));
+    }
+
+    private static void whatComesBehindUndoIsNew() {
+        SewingPiles x = new SewingPiles();
+        x.hire(9);
+        Check.write(x, "l1.1;m9");
+        x.obey();
+        x.undo();
+        x.undo();
+        x.lay(0, 7);
+        Check.due("14: the shirt's work", 7, x.shirt(0, 0));
+        Check.due("14: it lies", 0, x.shirt(0, 1));
+        Check.due("14: on pile 0", 0, x.shirt(0, 2));
+        x.hire(4);
+        int[] due = {4, 0, -1, 0, 0, 0, 0, 0, 0, 0};
+        for (int what = 0; what < 10; what++) {
+            Check.due("14: hired again, number " + what, due[what], x.seamstress(2, what));
+        }
     }
 
     private static void undoLeavesBufferAndSnapshot() {

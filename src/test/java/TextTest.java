@@ -114,6 +114,18 @@ public final class TextTest {
             y.wake(0);
         }
         Check.due("11: the state is as by the methods", y.digest(), x.digest());
+        SewingPiles z = new SewingPiles();
+        Check.write(z, "l0.10;l0.19;l1.90;l1.99;l1.1;m10;m19;m90;m99;m1");
+        z.set(0, 99);
+        Check.due("11: numbers of two digits", 10, z.obey());
+        Check.due("11: minutes", 219, z.count(0));
+        z.undo();
+        Check.write(z, "l0.10;l0.19;l1.90;l1.99;l1.1");
+        z.obey();
+        int[] works = {10, 19, 90, 99, 1};
+        for (int shirt = 0; shirt < 5; shirt++) {
+            Check.due("11: work of " + shirt, works[shirt], z.shirt(shirt, 0));
+        }
     }
 
     private static void obeyStopsAtTheFirstThatWouldThrow() {
