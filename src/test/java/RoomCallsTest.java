@@ -134,22 +134,8 @@ public final class RoomCallsTest {
         Check.due("4: room again", 17, x.lay(1, 2));
     }
 
-    /** A room in which so many shirts came, all sewn, and none was divided; the last call passed minutes. */
-    static SewingPiles roomWithSewnShirts(int shirts) {
-        SewingPiles x = new SewingPiles();
-        for (int i = 0; i < shirts; i++) {
-            if (i % 32 == 31) {
-                x.pass(40);
-            }
-            x.lay(i % 2, 1);
-        }
-        x.pass(40);
-        Check.due("all are sewn", shirts, x.count(3));
-        return x;
-    }
-
     private static void layAll120() {
-        SewingPiles x = roomWithSewnShirts(118);
+        SewingPiles x = Rooms.withSewnShirts(118);
         Check.due("4: the 119th", 118, x.lay(0, 50));
         x.pass(1);
         Check.due("4: it is divided, the new one is the 120th", 120, x.count(2));
@@ -158,7 +144,7 @@ public final class RoomCallsTest {
         Check.dueThrow("4: a 121st with work 0", Check.ARGUMENT, x, () -> x.lay(0, 0));
         x.pass(99);
         Check.due("4: the half of 25 is not divided", 1, x.count(8));
-        SewingPiles y = roomWithSewnShirts(119);
+        SewingPiles y = Rooms.withSewnShirts(119);
         Check.due("4: the 120th", 119, y.lay(1, 99));
         y.pass(1);
         Check.due("4: not divided, for 120 came", 0, y.count(8));

@@ -140,7 +140,7 @@ public final class TextTest {
         Check.write(x, "l0.5;l0.6;l1.1");
         Check.due("11: stops at a full pile", 1, x.obey());
         Check.due("11: 16 shirts", 16, x.count(2));
-        SewingPiles y = RoomCallsTest.roomWithSewnShirts(119);
+        SewingPiles y = Rooms.withSewnShirts(119);
         Check.write(y, "l0.5;m1;l1.6;m7");
         Check.due("11: stops at 120 shirts", 2, y.obey());
         Check.due("11: 120 shirts", 120, y.count(2));
