@@ -50,7 +50,7 @@ public final class StateEdgesTest {
         Check.due(what + " is undone", before, x.digest());
     }
 
-    /** "Each method that is marked \"undoable\" and does not throw an exception saves the state from before it" */
+    /** "Each method that is marked "undoable" and does not throw an exception saves the state from before it" */
     private static void eachUndoableMethodSavesTheStateBeforeIt() {
         dueUndone("hire", x -> x.hire(9));
         dueUndone("speed", x -> x.speed(0, 9));

@@ -111,7 +111,7 @@ public final class TextEdgesTest {
         dueComplete(SIXTY);
     }
 
-    /** "with \";\" between them" */
+    /** "with ";" between them" */
     private static void semicolonStandsBetweenParts() {
         dueError(";", 0);
         dueError(";m1", 0);
@@ -138,7 +138,7 @@ public final class TextEdgesTest {
         dueUnfinished(before);
     }
 
-    /** "\"l\", a seamstress, 0 to 5" */
+    /** ""l", a seamstress, 0 to 5" */
     private static void laySeamstressIs0To5() {
         dueSeamstress0To5("l", ".1");
     }
@@ -180,7 +180,7 @@ public final class TextEdgesTest {
         dueUnfinished(before);
     }
 
-    /** "\"v\", a seamstress, 0 to 5" */
+    /** ""v", a seamstress, 0 to 5" */
     private static void speedSeamstressIs0To5() {
         dueSeamstress0To5("v", "1");
     }
@@ -200,14 +200,14 @@ public final class TextEdgesTest {
         dueError("v099", 3);
     }
 
-    /** "\"w\" and a seamstress, 0 to 5" */
+    /** ""w" and a seamstress, 0 to 5" */
     private static void wakeSeamstressIs0To5() {
         dueSeamstress0To5("w", "");
         dueError("w00", 2);
         dueError("w0.", 2);
     }
 
-    /** "\"m\" and minutes, 1 to 99"; "Numbers are without leading zeros." */
+    /** ""m" and minutes, 1 to 99"; "Numbers are without leading zeros." */
     private static void minutesAre1To99WithoutLeadingZeros() {
         due1To99("m");
     }
